@@ -1,0 +1,210 @@
+import java.util.List;
+
+/** Many games made up from numbers, each played and asked about by the class and by the Model. */
+public final class ModelTest {
+    private static final Check CHECK = new Check();
+    private static final int GAMES = 400;
+    private static long chance = 20261118;
+
+    public static void main(String[] args) {
+        for (int i = 0; i < GAMES; i++) {
+            String text = game();
+            played(text);
+            asked(text);
+            spans(text);
+        }
+        CHECK.end();
+    }
+
+    private static int some(int least, int most) {
+        chance = (chance * 6364136223846793005L + 1442695040888963407L);
+        return least + (int) ((chance >>> 33) % (most - least + 1));
+    }
+
+    /** Now and then one of the two bounds, which are rare else. */
+    private static int edged(int least, int most) {
+        int kind = some(0, 9);
+        return kind == 0 ? least : kind == 1 ? most : some(least, most);
+    }
+
+    private static String game() {
+        int length = some(0, 3) == 0 ? some(4, 40) : some(4, 9);
+        int lanes = some(1, 6) == 1 ? some(1, 6) : some(1, 2);
+        StringBuilder text = new StringBuilder("yard long " + length + " lanes " + lanes + " runs " + edged(1, 4) + ";verse ");
+        int parts = some(1, 5);
+        for (int p = 0; p < parts; p++) {
+            text.append(p == 0 ? "" : ",");
+            int syllables = some(1, 4);
+            for (int s = 0; s < syllables; s++) {
+                text.append(" ").append(some(1, some(0, 3) == 0 ? 20 : 4));
+            }
+        }
+        text.append(";one");
+        for (int p = 0; p < parts - 1; p++) {
+            text.append(p == 0 ? " turns " : ",").append(edged(0, some(0, 1) == 0 ? 30 : 100));
+        }
+        text.append(" looks ").append(some(1, 12)).append(" eye ").append(some(1, 6)).append(" sees ").append(edged(0, 40));
+        int gravels = some(0, 5);
+        for (int g = 0; g < gravels; g++) {
+            int from = some(1, length);
+            text.append(";gravel lane " + some(0, lanes - 1) + " from " + from + " to " + some(from, length) + " loud " + some(1, 40));
+        }
+        int creepers = some(1, 5);
+        for (int c = 0; c < creepers; c++) {
+            String way = some(0, 2) == 0 ? "brave" : some(0, 1) == 0 ? "safe " + some(1, 5) : "sly " + some(1, 8);
+            text.append(";creeper c" + (char) ('a' + c) + " lane " + some(0, lanes - 1) + " pace " + some(1, some(0, 2) == 0 ? 20 : 5)
+                + " wobble " + edged(0, 100) + " tall " + some(100, 104) + " expects " + edged(0, some(0, 1) * 90 + 10) + " " + way);
+        }
+        return text.toString();
+    }
+
+    private static void same(String text, StillYard x, Model m, String when) {
+        String what = when + " of " + text + ": ";
+        for (int c = 0; c < m.creepers.size(); c++) {
+            Model.Creeper told = m.creepers.get(c);
+            CHECK.due(what + "place " + c, x.about(c, 0), told.place);
+            CHECK.due(what + "into " + c, x.about(c, 1), told.into);
+            CHECK.due(what + "how " + c, x.about(c, 2), told.how);
+            CHECK.due(what + "seen " + c, x.about(c, 3), told.seen);
+            CHECK.due(what + "wronged " + c, x.about(c, 4), told.wronged);
+            CHECK.due(what + "goes " + c, x.about(c, 5), m.toucher < 0 && m.goes(told) ? 1 : 0);
+            CHECK.due(what + "led " + c, x.led(c), m.creepers.indexOf(m.led().get(c)));
+        }
+        CHECK.due(what + "loud", x.play(3), m.loud);
+        CHECK.due(what + "looks", x.play(4), m.lookCount);
+        CHECK.due(what + "tenths", x.play(5), m.spent);
+        CHECK.due(what + "toucher", x.play(6), m.toucher);
+        CHECK.due(what + "caught", x.play(7), m.caught());
+        CHECK.due(what + "seed", x.size(5), m.seed);
+    }
+
+    private static void played(String text) {
+        StillYard x = Check.yard(text);
+        Model m = new Model(text);
+        int seed = edged(0, 65536);
+        x.start(seed);
+        m.begin(seed);
+        for (int i = 0; i < 12 && m.toucher < 0; i++) {
+            if (some(0, 1) == 0) {
+                int came = 0;
+                while (came == 0) {
+                    came = m.tenth(m.eyes());
+                }
+                CHECK.due("round of " + text, x.round(), came);
+            } else {
+                int n = some(1, 9);
+                int gone = 0;
+                while (gone < n && m.toucher < 0) {
+                    m.tenth(m.eyes());
+                    gone++;
+                }
+                CHECK.due("tenths of " + text, x.tenths(n), gone);
+            }
+            same(text, x, m, "play " + i);
+        }
+    }
+
+    private static void asked(String text) {
+        StillYard x = Check.yard(text);
+        Model m = new Model(text);
+        int n = m.creepers.size();
+        for (int i = 0; i < some(0, 3); i++) {
+            int c = some(0, n - 1);
+            int place = some(0, m.length - 1);
+            x.bring(c, place);
+            m.creepers.get(c).place = place;
+        }
+        CHECK.due("watch of " + text, x.watch(), m.watch());
+        int cells = some(1, m.length);
+        CHECK.due("lay of " + text, x.lay(cells), m.lay(cells)[0]);
+        CHECK.due("heard of " + text, x.heard(cells), m.lay(cells)[1]);
+        for (int p = 0; p < m.parts.size(); p++) {
+            CHECK.due("behind " + p + " of " + text, x.behind(p), m.behind(p));
+            CHECK.due("both " + p + " of " + text, x.both(p), m.both(p));
+        }
+        for (int k = 0; k < 6; k++) {
+            stands(text, x, m, some(0, n - 1), edged(0, m.length - 1), edged(0, m.total()));
+        }
+        int[] fair = m.fair();
+        CHECK.due("fair of " + text, x.fair(), fair[0]);
+        for (int c = 0; c < n; c++) {
+            CHECK.due("from " + c + " of " + text, x.from(c), fair[c + 1]);
+            int far = 0;
+            for (int place = 0; place <= m.length; place++) {
+                boolean caught = m.caughtFrom(m.creepers.get(c), place);
+                CHECK.due("home of " + text, x.home(c, place), caught ? 1 : 0);
+                far = caught ? far : place;
+            }
+            CHECK.due("far of " + text, x.far(c), far);
+        }
+        plays(text, x, m);
+    }
+
+    private static void stands(String text, StillYard x, Model m, int c, int place, int tenths) {
+        String what = " of " + c + " from " + place + " for " + tenths + " of " + text;
+        CHECK.due("risk" + what, x.risk(c, place, tenths), m.risk(c, place, tenths));
+        CHECK.due("gain" + what, x.gain(c, place, tenths, false), m.gain(c, place, tenths, false));
+        CHECK.due("gain hidden" + what, x.gain(c, place, tenths, true), m.gain(c, place, tenths, true));
+        int open = m.best(c, place, false);
+        int hidden = m.best(c, place, true);
+        CHECK.due("best" + what, x.best(c, place, false), open);
+        CHECK.due("best hidden" + what, x.best(c, place, true), hidden);
+        CHECK.due("worth" + what, x.worth(c, place), m.gain(c, place, hidden, true) - m.gain(c, place, open, false));
+        List<Integer> rests = m.rests(c, place);
+        CHECK.due("rests" + what, x.rests(c, place), rests.size());
+        for (int i = 0; i < rests.size(); i++) {
+            CHECK.due("rest " + i + what, x.rest(c, place, i), rests.get(i));
+        }
+        CHECK.refused("rest beyond" + what, x, x.rest(c, place, rests.size()), 1);
+    }
+
+    private static void plays(String text, StillYard x, Model m) {
+        int seed = some(0, 1) == 0 ? some(0, 65536) : 65530;
+        int n = some(1, 20);
+        int most = some(0, 3) == 0 ? some(1, 999) : some(1, 120);
+        x.start(seed);
+        x.tenths(1);
+        int now = x.size(5);
+        int[] sums = m.plays(now, n, most, m.eyes());
+        CHECK.due("lasts of " + text, x.lasts(n, most), sums[0]);
+        CHECK.due("sent of " + text, x.sent(n, most), sums[1]);
+        int best = 0;
+        int fewest = 99;
+        for (int c = 0; c <= m.creepers.size(); c++) {
+            if (c < m.creepers.size()) {
+                CHECK.due("wins of " + text, x.wins(c, n, most), sums[3 + c]);
+            }
+            int touched = m.plays(now, n, most, c)[2];
+            best = touched < fewest ? c : best;
+            fewest = Math.min(fewest, touched);
+        }
+        CHECK.due("looking of " + text, x.looking(n, most), best);
+        CHECK.due("the play goes on as it was", x.play(5), 1);
+        CHECK.due("and its seed", x.size(5), now);
+    }
+
+    private static void spans(String text) {
+        StillYard x = Check.yard(text);
+        Model m = new Model(text);
+        int c = some(0, m.creepers.size() - 1);
+        int n = some(1, 9);
+        int wobbled = 0;
+        for (int i = 0; i < n; i++) {
+            boolean wobbles = some(0, 2) == 0;
+            wobbled += wobbles ? 1 : 0;
+            CHECK.due("stop", x.stop(c, wobbles), i + 1);
+        }
+        int least = 0;
+        while (!Model.inSpan(n, wobbled, least)) {
+            least++;
+        }
+        int greatest = 100;
+        while (!Model.inSpan(n, wobbled, greatest)) {
+            greatest--;
+        }
+        CHECK.due("least of " + wobbled + " in " + n, x.span(c, false), least);
+        CHECK.due("greatest of " + wobbled + " in " + n, x.span(c, true), greatest);
+        int told = m.creepers.get(c).wobble;
+        CHECK.due("fits", x.fits(c), told >= least && told <= greatest ? 1 : 0);
+    }
+}
