@@ -1667,9 +1667,9 @@ public final class StillYard {
             for (int i = 0; i < n; i++) {
                 product *= i < k ? w : 100 - w;
             }
-            long chosen = 1;
+            int chosen = 1;
             for (int i = 1; i <= k; i++) {
-                chosen = chosen * (n - k + i) / i;
+                chosen = by(chosen * (n - k + i), i);
             }
             return product * chosen;
         }

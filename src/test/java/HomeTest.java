@@ -14,6 +14,7 @@ public final class HomeTest {
         laying();
         sizes();
         troubleIsKept();
+        wellCalls();
         CHECK.end();
     }
 
@@ -142,7 +143,63 @@ public final class HomeTest {
         x.led(0);
         CHECK.due("calls without a number leave it", x.trouble(), 1);
         CHECK.due("trouble leaves it too", x.trouble(), 1);
-        x.about(0, 0);
-        CHECK.due("a call that may be refused ends it", x.trouble(), 0);
+        endsTrouble(x, x.game(-5), x.about(0, 0));
+    }
+
+    /** Every call that may be refused ends the trouble of the one ahead of it, if it goes well. */
+    private static void wellCalls() {
+        StillYard x = Check.yard(TEXT);
+        for (int what = 0; what < 8; what++) {
+            endsTrouble(x, x.law(9), x.play(what));
+        }
+        for (int what = 0; what < 6; what++) {
+            endsTrouble(x, x.law(9), x.about(0, what));
+        }
+        endsTrouble(x, x.law(9), x.start(5) ? 1 : 0);
+        endsTrouble(x, x.law(9), x.tenths(1));
+        endsTrouble(x, x.law(9), x.round());
+        endsTrouble(x, x.law(9), x.bring(0, 1) ? 1 : 0);
+        endsTrouble(x, x.law(9), x.mark());
+        endsTrouble(x, x.law(9), x.back(0) ? 1 : 0);
+        endsTrouble(x, x.law(9), x.behind(0));
+        endsTrouble(x, x.law(9), x.ways());
+        endsTrouble(x, x.law(9), x.risk(0, 0, 0));
+        endsTrouble(x, x.law(9), x.gain(0, 0, 0, true));
+        endsTrouble(x, x.law(9), x.best(0, 0, true));
+        endsTrouble(x, x.law(9), x.worth(0, 0));
+        endsTrouble(x, x.law(9), x.rests(0, 0));
+        endsTrouble(x, x.law(9), x.rest(0, 0, 0));
+        endsTrouble(x, x.law(9), x.watch());
+        endsTrouble(x, x.law(9), x.both(0));
+        endsTrouble(x, x.law(9), x.wins(0, 1, 1));
+        endsTrouble(x, x.law(9), x.lasts(1, 1));
+        endsTrouble(x, x.law(9), x.sent(1, 1));
+        endsTrouble(x, x.law(9), x.looking(1, 1));
+        endsTrouble(x, x.law(9), x.film(0, true, true));
+        endsTrouble(x, x.law(9), x.law(0));
+        endsTrouble(x, x.law(9), x.says(0, true));
+        endsTrouble(x, x.law(9), x.off());
+        endsTrouble(x, x.law(9), x.stop(0, true));
+        endsTrouble(x, x.law(9), x.span(0, true));
+        endsTrouble(x, x.law(9), x.fits(0));
+        endsTrouble(x, x.law(9), x.home(0, 0));
+        endsTrouble(x, x.law(9), x.far(0));
+        endsTrouble(x, x.law(9), x.fair());
+        endsTrouble(x, x.law(9), x.from(0));
+        endsTrouble(x, x.law(9), x.lay(1));
+        endsTrouble(x, x.law(9), x.heard(1));
+        endsTrouble(x, x.law(9), x.loud(0, 1));
+        x = Check.yard(TEXT.replace("looks 7", "looks 9").replace("expects 90", "expects 100"));
+        x.round();
+        endsTrouble(x, x.law(9), x.often(0));
+        endsTrouble(x, x.law(9), x.right(0) ? 1 : 0);
+        Check.feed(x, TEXT);
+        endsTrouble(x, x.law(9), x.game(TEXT.length()));
+    }
+
+    /** The answers come from left to right: the first one refused, the second one well. */
+    private static void endsTrouble(StillYard x, long refused, long well) {
+        CHECK.due("refused", refused, -1);
+        CHECK.due("the trouble is over behind " + well, x.trouble(), 0);
     }
 }

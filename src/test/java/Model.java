@@ -126,6 +126,21 @@ final class Model {
         return c.way == 0 || c.way == 1 && part < c.n || c.way == 2 && inPart + c.n < tenthsOf(part);
     }
 
+    /** 0 the part, 1 the syllable, 2 tenths of it, all by what is said. */
+    int[] said() {
+        int left = said;
+        for (int p = 0; p < parts.size(); p++) {
+            int[] part = parts.get(p);
+            for (int s = 0; s < part.length; s++) {
+                if (left < part[s] || left == part[s] && toucher >= 0 && s == part.length - 1) {
+                    return new int[] {p, s, left};
+                }
+                left -= part[s];
+            }
+        }
+        return new int[3];
+    }
+
     int loudAt(int lane, int cell) {
         return gravels.stream().filter(g -> g[0] == lane && g[1] <= cell && cell <= g[2]).mapToInt(g -> g[3]).max().orElse(0);
     }

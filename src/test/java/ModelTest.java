@@ -70,6 +70,9 @@ public final class ModelTest {
             CHECK.due(what + "goes " + c, x.about(c, 5), m.toucher < 0 && m.goes(told) ? 1 : 0);
             CHECK.due(what + "led " + c, x.led(c), m.creepers.indexOf(m.led().get(c)));
         }
+        for (int i = 0; i < 3; i++) {
+            CHECK.due(what + "said " + i, x.play(i), m.said()[i]);
+        }
         CHECK.due(what + "loud", x.play(3), m.loud);
         CHECK.due(what + "looks", x.play(4), m.lookCount);
         CHECK.due(what + "tenths", x.play(5), m.spent);

@@ -60,6 +60,19 @@ public final class NotesTest {
         CHECK.due("9 of 27", x.law(0), 33);
         CHECK.due("5 of 13", x.says(0, true), 38);
         CHECK.due("4 of 14", x.says(0, false), 28);
+        StillYard y = Check.yard(TEXT.replace("3,2,5", "3,2,5,1,1").replace("20,50", "20,50,9,100"));
+        for (int part = 0; part < 4; part++) {
+            for (int i = 0; i <= part; i++) {
+                y.film(part, i == 0, i > 0);
+            }
+        }
+        int[] laws = {0, 50, 66, 75};
+        for (int part = 0; part < 4; part++) {
+            CHECK.due("law of " + part, y.law(part), laws[part]);
+            CHECK.due("with shoulders", y.says(part, true), 0);
+            CHECK.due("without", y.says(part, false), part == 0 ? -1 : 100);
+        }
+        CHECK.due("off 20, 0, 57 and 25", y.off(), 102);
         x.start(4);
         CHECK.due("films stay", x.size(8), 30);
     }

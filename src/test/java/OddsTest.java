@@ -107,6 +107,10 @@ public final class OddsTest {
         CHECK.due("b loses all", x.gain(1, 8, 10, false), 2000 * -800 + 4000 * -800 + 4000 * 200);
         CHECK.due("b at risk twice", x.risk(1, 8, 10), 2000 * 100 + 4000 * 100);
         CHECK.due("c's rest of 2 of 3 is 66", x.risk(2, 0, 10), 4000 * 60);
+        x = Check.yard(TEXT.replace("sees 10", "sees 57"));
+        CHECK.due("66 of 66", x.risk(2, 0, 10), 4000 * 60);
+        x = Check.yard(TEXT.replace("sees 10", "sees 58"));
+        CHECK.due("66 of 67", x.risk(2, 0, 10), 0);
     }
 
     private static void bestAndWorth() {

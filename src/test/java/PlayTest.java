@@ -269,6 +269,7 @@ public final class PlayTest {
         CHECK.denied("one seen", x, x.right(1), 5);
         CHECK.due("right", x.right(0), true);
         CHECK.due("right's trouble", x.trouble(), 0);
+        CHECK.due("right's into", x.about(0, 1), 0);
         CHECK.due("back there", x.about(0, 0), 3);
         CHECK.due("still", x.about(0, 2), 0);
         CHECK.due("no more", x.about(0, 4), 0);
@@ -278,6 +279,12 @@ public final class PlayTest {
         CHECK.due("again from 3", x.about(0, 2), 5);
         x.right(0);
         CHECK.due("again there", x.about(0, 0), 5);
+        x = Check.yard(game(9, "3", "looks 9 eye 1 sees 0", creeper("a", 0, 2, 0, 60, 100, "brave")));
+        x.round();
+        CHECK.due("its foot stays up", x.about(0, 1), 1);
+        x.right(0);
+        CHECK.due("put right on both feet", x.about(0, 1), 0);
+        CHECK.due("where it was", x.about(0, 0), 1);
         x = Check.yard(game(9, "2,3", "turns 50 looks 9 eye 1 sees 0", creeper("a", 0, 2, 50, 60, 70, "brave")));
         for (int i = 0; i < 12; i++) {
             x.round();

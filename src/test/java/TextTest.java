@@ -119,8 +119,9 @@ public final class TextTest {
         faultAt("verse 1,1,1;one turns 1 |looks", 1);
         faultAt("verse 1;one |turns 1", 1);
         faultAt(VERSE + "one turns 1 looks 1 eye 1 |see", 1);
-        faultAt(YARD + "creeper |verse", 1);
-        faultAt(YARD + "creeper |brave", 1);
+        for (String kept : new String[] {"yard", "verse", "one", "gravel", "creeper", "brave", "safe", "sly"}) {
+            faultAt(YARD + "creeper |" + kept + WAY, 1);
+        }
         faultAt(YARD + "creeper |abcdefghi", 1);
         faultAt(YARD + "creeper |1", 1);
         faultAt(YARD + ANN + " |1", 1);
