@@ -61,6 +61,7 @@ public final class TextTest {
         CHECK.due("one part's tenths", x.size(9), 42);
         CHECK.due("a name like a word of the text", Check.read(x, YARD + VERSE + ONE + ANN
             + ";creeper long" + WAY + ";creeper turns" + WAY + ";creeper abcdefgh" + WAY), 4);
+        CHECK.due("a to z", Check.read(x, YARD + VERSE + ONE + "creeper z" + WAY + ";creeper za" + WAY + ";creeper az" + WAY), 3);
         CHECK.due("five creepers", Check.read(x, YARD + VERSE + ONE + creepers(5)), 5);
         CHECK.due("five gravels", Check.read(x, YARD + VERSE + ONE + gravels(5) + ANN), 1);
         CHECK.due("gravels", x.size(3), 5);
@@ -98,6 +99,11 @@ public final class TextTest {
         faultAt("|;", 1);
         faultAt("|Yard", 1);
         faultAt("|yards long", 1);
+        faultAt("|zard long", 1);
+        faultAt("|{", 1);
+        faultAt("|`", 1);
+        faultAt("yard long |/", 1);
+        faultAt("yard long |:", 1);
         faultAt("|12", 1);
         faultAt("yard |lanes", 1);
         faultAt("yard long |;", 1);
