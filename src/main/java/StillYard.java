@@ -1306,12 +1306,18 @@ public final class StillYard {
         void wobbleAll(Game g) {
             for (int c = 0; c < g.creepers; c++) {
                 put(wobbles, c, NONE);
-                boolean footUp = at(went, c) == 1 && at(intos, c) > 0;
-                if (footUp && draw() < g.trait(c, WOBBLE)) {
-                    put(wobbles, c, by(at(intos, c) * 100, g.trait(c, PACE)));
-                    put(intos, c, 0);
+                if (at(went, c) == 1 && at(intos, c) > 0) {
+                    stopFootUp(g, c);
                 }
             }
+        }
+
+        // The foot comes down whether it WOBBLES or not: only one that didn't go keeps its INTO.
+        void stopFootUp(Game g, int c) {
+            if (draw() < g.trait(c, WOBBLE)) {
+                put(wobbles, c, by(at(intos, c) * 100, g.trait(c, PACE)));
+            }
+            put(intos, c, 0);
         }
 
         void orderAll(Game g) {
@@ -1432,7 +1438,7 @@ public final class StillYard {
             sentBack = 0;
             for (int i = 0; i < n; i++) {
                 trial.begin((seed + i) % SEEDS);
-                while (trial.spent < most && !trial.isOver()) {
+                for (int t = 0; t < most && !trial.isOver(); t++) {
                     trial.goOn(g, eyes);
                 }
                 count(g);

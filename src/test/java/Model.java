@@ -179,8 +179,8 @@ final class Model {
             c.wobbles = 0;
             c.how = 3;
             c.stood = c.place;
-            if (c.went && c.into > 0 && draw() < c.wobble) {
-                c.wobbles = c.into * 100 / c.pace;
+            if (c.went && c.into > 0) {
+                c.wobbles = draw() < c.wobble ? c.into * 100 / c.pace : 0;
                 c.into = 0;
             }
         }

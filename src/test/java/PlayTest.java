@@ -9,6 +9,8 @@ public final class PlayTest {
         tenthsAndParts();
         waysOfCreepers();
         feet();
+        feetDown();
+        feetKept();
         lookedAt();
         gravel();
         draws();
@@ -90,7 +92,7 @@ public final class PlayTest {
             CHECK.due("all tenths behind " + t, x.play(5), t);
             CHECK.due("looks behind " + t, x.play(4), t == 15 ? 1 : 0);
             CHECK.due("place behind " + t, x.about(0, 0), t / 7);
-            CHECK.due("into behind " + t, x.about(0, 1), t % 7);
+            CHECK.due("into behind " + t, x.about(0, 1), t == 15 ? 0 : t % 7);
             x.tenths(1);
         }
         CHECK.due("round", x.round(), 1);
@@ -125,7 +127,7 @@ public final class PlayTest {
         CHECK.due("how ahead of a look", x.about(0, 2), -2);
         x.round();
         int[] places = {0, 1, 1, 0, 0};
-        int[] intos = {0, 1, 0, 1, 0};
+        int[] intos = {0, 0, 0, 1, 0};
         int[] hows = {4, 0, 0, 0, 4};
         for (int c = 0; c < 5; c++) {
             CHECK.due("feet: place " + c, x.about(c, 0), places[c]);
@@ -145,6 +147,42 @@ public final class PlayTest {
         x.bring(0, 3);
         CHECK.due("bring's into", x.about(0, 1), 0);
         CHECK.due("how stays", x.about(0, 2), 1);
+    }
+
+    /** A foot that is up comes down in the look, HIDDEN or not looked at or WOBBLING or none of these. */
+    private static void feetDown() {
+        StillYard x = Check.yard(game(20, "3", "looks 3 eye 1 sees 100",
+            creeper("a", 0, 2, 0, 60, 0, "brave"), creeper("b", 0, 1, 0, 61, 0, "brave"),
+            creeper("c", 1, 2, 0, 60, 100, "brave"), creeper("d", 1, 4, 0, 60, 0, "brave"),
+            creeper("e", 2, 4, 100, 60, 0, "brave")));
+        for (int round = 1; round <= 3; round++) {
+            x.round();
+            int[] places = {round, 3 * round, 0, 0, 0};
+            int[] hows = {2, 0, 5, 3, 3};
+            for (int c = 0; c < 5; c++) {
+                CHECK.due("feet down: place " + c + " behind " + round, x.about(c, 0), places[c]);
+                CHECK.due("feet down: into " + c + " behind " + round, x.about(c, 1), 0);
+                CHECK.due("feet down: how " + c + " behind " + round, x.about(c, 2), hows[c]);
+            }
+        }
+        CHECK.due("feet down: a draw for each foot, two for those looked at", x.size(5), seedBehind(0, 18));
+    }
+
+    /** Who doesn't go in the TENTH of the look draws nothing for its foot and keeps its INTO. */
+    private static void feetKept() {
+        StillYard x = Check.yard(game(20, "2,1", "turns 0 looks 1 eye 2 sees 0",
+            creeper("a", 0, 3, 100, 60, 0, "safe 1"), creeper("b", 0, 4, 100, 60, 0, "sly 1"),
+            creeper("c", 0, 5, 100, 60, 0, "brave")));
+        int[] places = {0, 0, 0, 1, 0, 0, 2, 0, 0, 2, 1, 0};
+        int[] intos = {2, 1, 0, 1, 2, 0, 0, 3, 0, 2, 0, 0};
+        for (int i = 0; i < places.length; i++) {
+            if (i % 3 == 0) {
+                x.round();
+            }
+            CHECK.due("feet kept: place " + i, x.about(i % 3, 0), places[i]);
+            CHECK.due("feet kept: into " + i, x.about(i % 3, 1), intos[i]);
+        }
+        CHECK.due("feet kept: a draw to turn and one foot each", x.size(5), seedBehind(0, 8));
     }
 
     private static void lookedAt() {
@@ -281,7 +319,9 @@ public final class PlayTest {
         CHECK.due("again there", x.about(0, 0), 5);
         x = Check.yard(game(9, "3", "looks 9 eye 1 sees 0", creeper("a", 0, 2, 0, 60, 100, "brave")));
         x.round();
-        CHECK.due("its foot stays up", x.about(0, 1), 1);
+        CHECK.due("its foot is down", x.about(0, 1), 0);
+        x.tenths(1);
+        CHECK.due("a step begun from the line", x.about(0, 1), 1);
         x.right(0);
         CHECK.due("put right on both feet", x.about(0, 1), 0);
         CHECK.due("where it was", x.about(0, 0), 1);
