@@ -26,6 +26,25 @@ final class Check {
         due(what + " trouble", x.trouble(), trouble);
     }
 
+    /** An answer of a call that may be refused and isn't. */
+    void well(String what, StillYard x, long got, long want) {
+        due(what, got, want);
+        due(what + " trouble", x.trouble(), 0);
+    }
+
+    void granted(String what, StillYard x, boolean got) {
+        due(what, got, true);
+        due(what + " trouble", x.trouble(), 0);
+    }
+
+    int asked() {
+        return asked;
+    }
+
+    int wrong() {
+        return wrong;
+    }
+
     void end() {
         System.out.println(asked + " answers, " + wrong + " not as due");
         if (wrong > 0 || asked == 0) {
