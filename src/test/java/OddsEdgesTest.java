@@ -317,6 +317,10 @@ public final class OddsEdgesTest {
         }
         x = lone(4, "2,2", "turns 50 ", 0, 2, 100);
         check.due("from 3 both are the wall", x.rests(0, 3), 4);
+        x = lone(40, "5,5", "turns 50 ", 0, 20, 100);
+        check.due("no STEP by either: but who goes on would be SEEN behind the first", x.rests(0, 30), 2);
+        check.due("so it stands, and he turns there", x.rest(0, 30, 0), 0);
+        check.due("or behind the second", x.rest(0, 30, 1), 10);
     }
 
     // ---- sets
@@ -528,6 +532,7 @@ public final class OddsEdgesTest {
             check.refused("both " + n, x, x.both(n), 2);
         }
         check.refused("PARTS and one", x, x.both(4), 2);
+        check.well("behind the first two", x, x.both(2), 3600 * 3600);
     }
 
     private static void riskRefused(Check check) {

@@ -832,6 +832,29 @@ public final class PlayEdgesTest {
             said(check, "behind " + t, x, due[t][0], due[t][1], due[t][2]);
             x.tenths(1);
         }
+        fiveFulls(check);
+    }
+
+    /** Five PARTS of four syllables each, no two alike beside one another. */
+    private static void fiveFulls(Check check) {
+        int[][] parts = {{3, 1, 2, 20}, {2, 3, 1, 19}, {1, 2, 3, 18}, {4, 1, 2, 17}, {2, 4, 1, 16}};
+        StringBuilder verse = new StringBuilder();
+        for (int[] part : parts) {
+            verse.append(verse.length() > 0 ? "," : "");
+            for (int tenths : part) {
+                verse.append(" ").append(tenths);
+            }
+        }
+        StillYard x = quiet(40, verse.toString(), "turns 0,0,0,0 ", Told.steady("a", 0, 20, "sly 20"));
+        for (int part = 0; part < 5; part++) {
+            for (int i = 0; i < 4; i++) {
+                for (int t = 0; t < parts[part][i]; t++) {
+                    said(check, "five PARTS of four", x, part, i, t);
+                    x.tenths(1);
+                }
+            }
+        }
+        said(check, "at its beginning", x, 0, 0, 0);
     }
 
     private static void touchedWithTheLastTenth(Check check) {

@@ -76,6 +76,8 @@ public final class TextTest {
         edges.of("Promise 2", "NONE, and none comes, if there would be more than 900.", TextTest::noMoreThan900);
         edges.of("Promise 3", "The first n bytes of THE TAPE", TextTest::onlyTheFirst);
         edges.of("Promise 3", "(it is empty then)", TextTest::emptyTape);
+        edges.of("Promise 3", "are the GAME from now on", TextTest::fromNowOn);
+        edges.of("Promise 3", "how many creepers.", TextTest::howManyCreepers);
         edges.of("Promise 3", "(all at the line, SEED 0; no MARKS, FILMS, STOPS)", TextTest::fromTheBeginning);
         edges.of("Promise 3", "NONE: 2 (THE TAPE stays);", TextTest::tapeStays);
         edges.of("Promise 3", "4 (the GAME stays).", TextTest::gameStays);
@@ -399,6 +401,23 @@ public final class TextTest {
             "verse 1 |one", "verse 1|one", VERSE + "one |eye", VERSE + "one |turn 5", VERSE + "one turns 5 |look 4",
             VERSE + "one turns 5,|;", YARD + "gravel |a", YARD + "creeper a |a", YARD + "creeper |1", YARD + "creeper|,",
             YARD + ANN + " |creeper");
+        String[] kept = (WHOLE_TEXT + ";creeper b lane 1 pace 1 wobble 1 tall 60 expects 1 safe 1;creeper c lane 1 pace 1 wobble 1 tall 60 "
+            + "expects 1 sly 1;gravel lane 1 from 1 to 1 loud 1").split("(?<![a-z])(?=[a-z])");
+        StringBuilder before = new StringBuilder();
+        for (String word : kept) {
+            boolean name = before.toString().endsWith("creeper ");
+            for (int i = 0; i < word.length() && Character.isLetter(word.charAt(i)) && !name; i++) {
+                otherWords(check, before.toString(), word, i);
+            }
+            before.append(word);
+        }
+    }
+
+    /** Another letter at i, one letter more, one less: none of these is a WORD with which the GAME goes on. */
+    private static void otherWords(Check check, String before, String word, int i) {
+        faultAt(check, 1, before + "|" + word.substring(0, i) + "q" + word.substring(i + 1),
+            before + "|" + word.substring(0, i) + "q" + word.substring(i),
+            before + "|" + word.substring(0, i) + word.substring(i + 1));
     }
 
     private static void atTheEnd(Check check) {
@@ -578,6 +597,60 @@ public final class TextTest {
         check.due("none wobbled", x.span(0, false), 0);
         x.film(0, true, false);
         check.due("one FILM alone", x.law(0), 0);
+    }
+
+    /** One object reads what fresh ones read, and between them texts with FAULTS far on; nothing of the former is left. */
+    private static void fromNowOn(Check check) {
+        String full = "yard long 40 lanes 6 runs 9;verse 1 2 3 4,4 3 2 1,1 1 1 1,2 2 2 2,3 3 3 3;one turns 9,8,7,6 looks 60 eye 1 sees 99;"
+            + "gravel lane 5 from 1 to 40 loud 99;".repeat(4) + "gravel lane 0 from 1 to 40 loud 98;" + creepers(4)
+            + ";creeper e lane 5 pace 20 wobble 100 tall 199 expects 100 sly 20";
+        String[] texts = {full, WHOLE_TEXT, YARD + "verse 3 1 2;one looks 1 eye 2 sees 0;" + ANN, full + ";creeper", full,
+            "yard long 4 lanes 1 runs 1;verse 2,1 1;one turns 50 looks 1 eye 1 sees 1;" + gravels(0) + Told.steady("a", 0, 3, "brave"),
+            full + ";gravel", YARD + "verse 1 1,1 1 1 1;one turns 0 looks 9 eye 3 sees 7;" + gravels(1) + creepers(2), WHOLE_TEXT, full};
+        StillYard x = new StillYard();
+        StillYard told = new StillYard();
+        for (String text : texts) {
+            StillYard fresh = new StillYard();
+            if (Check.read(fresh, text) > 0) {
+                told = fresh;
+            }
+            check.due(text, Check.read(x, text), fresh.trouble() == 0 ? fresh.size(4) : -1);
+            same(check, text, x, told);
+            x.start(0);
+            told.start(0);
+        }
+    }
+
+    private static void same(Check check, String text, StillYard x, StillYard told) {
+        for (int what = 0; what <= 10; what++) {
+            check.due("size " + what + " behind " + text, x.size(what), told.size(what));
+        }
+        for (int c = 0; c < told.size(4); c++) {
+            for (int what = 0; what < 7; what++) {
+                check.due("creeper " + c + ", " + what + " behind " + text, x.creeper(c, what), told.creeper(c, what));
+            }
+            check.due("home behind " + text, x.far(c), told.far(c));
+            check.due("risk behind " + text, x.risk(c, 3, x.size(9)), told.risk(c, 3, told.size(9)));
+        }
+        for (int i = 0; i < x.size(1) * x.size(0); i++) {
+            check.due("loud behind " + text, x.loud(i / x.size(0), i % x.size(0) + 1), told.loud(i / x.size(0), i % x.size(0) + 1));
+        }
+        for (int part = 0; part < x.size(2); part++) {
+            check.due("behind " + part + " behind " + text, x.behind(part), told.behind(part));
+        }
+        for (int t = 0; t < x.size(9); t++) {
+            x.tenths(1);
+            told.tenths(1);
+            for (int what = 0; what < 8; what++) {
+                check.due("play " + what + " behind " + text, x.play(what), told.play(what));
+            }
+        }
+    }
+
+    private static void howManyCreepers(Check check) {
+        for (int n = 1; n <= 5; n++) {
+            isTold(check, YARD + VERSE + ONE + creepers(n), n);
+        }
     }
 
     private static void tapeStays(Check check) {
