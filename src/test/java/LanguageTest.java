@@ -26,6 +26,7 @@ public final class LanguageTest {
         CHECK.due("rows made behind the making of an object", count(text, "(?m)^ +(?!final)\\S.* = new int\\["), 0);
         names(text);
         lengths(text);
+        counts(text);
         CHECK.end();
     }
 
@@ -48,6 +49,17 @@ public final class LanguageTest {
         m = Pattern.compile("(?m)^ +(?:private )?(?:static )?(?:int|long|boolean|void) (\\w+)\\(").matcher(text);
         while (m.find()) {
             CHECK.due("another " + m.group(1), open.contains(m.group(1)), false);
+        }
+    }
+
+    /** Classes of the file, parameters of a method, fields of a class that are no constants. */
+    private static void counts(String text) {
+        CHECK.due("more than 12 classes", count(text, "\\bclass \\w+ \\{") > 12, false);
+        CHECK.due("methods of more than 7 parameters", count(text, "\\w+ \\w+\\((?:\\w+(?:\\[\\])? \\w+, ){7}"), 0);
+        for (String part : text.split("\\bclass ")) {
+            int fields = count(part, "(?m)^ +(?:private )?(?:final )?(?!return|static)\\w+(?:\\[\\])? \\w+(?: = new [^;]*| = \\w+)?;$");
+            int locals = count(part, "(?m)^ {12,}(?:final )?(?!return|static)\\w+(?:\\[\\])? \\w+(?: = new [^;]*| = \\w+)?;$");
+            CHECK.due("more than 20 fields of " + part.substring(0, part.indexOf('\n')), fields - locals > 20, false);
         }
     }
 
