@@ -20,6 +20,7 @@ public final class EndlessTest {
             + "tall 61 expects 99 safe 1",
         "yard long 4 lanes 1 runs 1;verse 1;one looks 1 eye 20 sees 100;creeper z lane 0 pace 20 wobble 0 tall 60 expects 0 brave"};
     private static long chance;
+    private static int left;
 
     public static void main(String[] args) {
         for (int run = 0; run < RUNS; run++) {
@@ -42,8 +43,10 @@ public final class EndlessTest {
         chance = run;
         StillYard x = new StillYard();
         long sum = 0;
-        for (int i = 0; i < CALLS; i++) {
+        left = CALLS - 2;
+        while (left > 0) {
             sum = sum * 31 + call(x);
+            left--;
         }
         return sum;
     }
@@ -64,6 +67,10 @@ public final class EndlessTest {
         }
         if (some(6) == 0) {
             return x.feed(some(1 << 30) * 4, -1, number(), number(), number());
+        }
+        left -= text.length() / 20 + 4;
+        if (left <= 0) {
+            return 0;
         }
         Check.feed(x, text);
         return x.game(some(8) == 0 ? number() : Math.min(text.length(), x.size(6))) * 1000L + x.fault() * 7 + x.where();
@@ -117,7 +124,9 @@ public final class EndlessTest {
             case 27: return x.loud(number(), number());
             case 28: return led(x, number());
             case 29: return x.size(number());
-            default: return x.creeper(number(), number()) * 10L + x.trouble();
+            default:
+                left--;
+                return x.creeper(number(), number()) * 10L + x.trouble();
         }
     }
 

@@ -87,7 +87,7 @@ public final class ModelTest {
         int seed = edged(0, 65536);
         x.start(seed);
         m.begin(seed);
-        for (int i = 0; i < 12 && m.toucher < 0; i++) {
+        for (int i = 0; i < 10 && m.toucher < 0; i++) {
             if (some(0, 1) == 0) {
                 int came = 0;
                 while (came == 0) {

@@ -810,6 +810,17 @@ public final class OddsEdgesTest {
         }
         check.due("one doesn't stop all, two stop some", touched[1] == 20 && touched[2] < 20 && touched[2] > 0, true);
         check.well("so at two", x, x.looking(20, 4), 2);
+        oneOfTwenty(check);
+    }
+
+    /** It touches with the fourth TENTH if it isn't WRONGED with the third: of SEEDS 850 to 876 only 873 draws less than 13. */
+    private static void oneOfTwenty(Check check) {
+        StillYard x = Check.yard(Told.game(4, 1, 1, "3", "looks 1 eye 1 sees 0", Told.creeper("a", 0, 1, 0, 60, 13, "brave")));
+        for (int seed = 850; seed <= 857; seed++) {
+            x.start(seed);
+            check.well("TOUCHED from " + seed, x, x.wins(0, 20, 4), seed < 854 ? 20 : 19);
+            check.well("one of twenty less is fewer", x, x.looking(20, 4), seed < 854 ? 0 : 1);
+        }
     }
 
     private static void lookingRefused(Check check) {

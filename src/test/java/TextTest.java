@@ -607,43 +607,46 @@ public final class TextTest {
         String[] texts = {full, WHOLE_TEXT, YARD + "verse 3 1 2;one looks 1 eye 2 sees 0;" + ANN, full + ";creeper", full,
             "yard long 4 lanes 1 runs 1;verse 2,1 1;one turns 50 looks 1 eye 1 sees 1;" + gravels(0) + Told.steady("a", 0, 3, "brave"),
             full + ";gravel", YARD + "verse 1 1,1 1 1 1;one turns 0 looks 9 eye 3 sees 7;" + gravels(1) + creepers(2), WHOLE_TEXT, full};
-        StillYard x = new StillYard();
-        StillYard told = new StillYard();
-        for (String text : texts) {
-            StillYard fresh = new StillYard();
-            if (Check.read(fresh, text) > 0) {
-                told = fresh;
+        for (int i = 0; i + 2 < texts.length; i++) {
+            StillYard x = new StillYard();
+            StillYard told = x;
+            for (int k = i; k < i + 3; k++) {
+                StillYard fresh = new StillYard();
+                int creepers = Check.read(fresh, texts[k]);
+                check.due(texts[k], Check.read(x, texts[k]), creepers);
+                told = creepers > 0 ? fresh : told;
             }
-            check.due(text, Check.read(x, text), fresh.trouble() == 0 ? fresh.size(4) : -1);
-            same(check, text, x, told);
-            x.start(0);
-            told.start(0);
+            toldAlike(check, "behind " + texts[i + 2], x, told);
+            saidAlike(check, "behind " + texts[i + 2], x, told);
         }
     }
 
-    private static void same(Check check, String text, StillYard x, StillYard told) {
+    private static void toldAlike(Check check, String when, StillYard x, StillYard told) {
         for (int what = 0; what <= 10; what++) {
-            check.due("size " + what + " behind " + text, x.size(what), told.size(what));
+            check.due("size " + what + " " + when, x.size(what), told.size(what));
         }
         for (int c = 0; c < told.size(4); c++) {
             for (int what = 0; what < 7; what++) {
-                check.due("creeper " + c + ", " + what + " behind " + text, x.creeper(c, what), told.creeper(c, what));
+                check.due("creeper " + c + ", " + what + " " + when, x.creeper(c, what), told.creeper(c, what));
             }
-            check.due("home behind " + text, x.far(c), told.far(c));
-            check.due("risk behind " + text, x.risk(c, 3, x.size(9)), told.risk(c, 3, told.size(9)));
+            check.due("far " + when, x.far(c), told.far(c));
+            check.due("risk " + when, x.risk(c, 3, 3), told.risk(c, 3, 3));
         }
-        for (int i = 0; i < x.size(1) * x.size(0); i++) {
-            check.due("loud behind " + text, x.loud(i / x.size(0), i % x.size(0) + 1), told.loud(i / x.size(0), i % x.size(0) + 1));
+        for (int lane = 0; lane < told.size(1); lane++) {
+            check.due("the first cell " + when, x.loud(lane, 1), told.loud(lane, 1));
+            check.due("the fourth cell " + when, x.loud(lane, 4), told.loud(lane, 4));
         }
-        for (int part = 0; part < x.size(2); part++) {
-            check.due("behind " + part + " behind " + text, x.behind(part), told.behind(part));
+        for (int part = 0; part < told.size(2); part++) {
+            check.due("behind " + part + " " + when, x.behind(part), told.behind(part));
         }
-        for (int t = 0; t < x.size(9); t++) {
+    }
+
+    private static void saidAlike(Check check, String when, StillYard x, StillYard told) {
+        for (int t = told.size(9); t > 0; t--) {
             x.tenths(1);
             told.tenths(1);
-            for (int what = 0; what < 8; what++) {
-                check.due("play " + what + " behind " + text, x.play(what), told.play(what));
-            }
+            check.due("the syllable " + when, x.play(1), told.play(1));
+            check.due("tenths of it " + when, x.play(2), told.play(2));
         }
     }
 
