@@ -1,5 +1,6 @@
 import java.math.BigInteger;
 import java.util.ArrayList;
+import java.util.Arrays;
 import java.util.Comparator;
 import java.util.List;
 
@@ -27,7 +28,7 @@ final class Model {
                 case "verse" -> readVerse(line.trim().substring(5));
                 case "one" -> readOne(line.trim(), t);
                 case "gravel" -> gravels.add(new int[] {number(t, "lane"), number(t, "from"), number(t, "to"), number(t, "loud")});
-                default -> creepers.add(readCreeper(t));
+                default -> creepers.add(readCreeper(Arrays.copyOfRange(t, 2, t.length)));
             }
         }
         begin(0);

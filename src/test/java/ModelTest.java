@@ -4,58 +4,16 @@ import java.util.List;
 public final class ModelTest {
     private static final Check CHECK = new Check();
     private static final int GAMES = 400;
-    private static long chance = 20261118;
+    private static final Made MADE = new Made(20261118);
 
     public static void main(String[] args) {
         for (int i = 0; i < GAMES; i++) {
-            String text = game();
+            String text = MADE.game();
             played(text);
             asked(text);
             spans(text);
         }
         CHECK.end();
-    }
-
-    private static int some(int least, int most) {
-        chance = (chance * 6364136223846793005L + 1442695040888963407L);
-        return least + (int) ((chance >>> 33) % (most - least + 1));
-    }
-
-    /** Now and then one of the two bounds, which are rare else. */
-    private static int edged(int least, int most) {
-        int kind = some(0, 9);
-        return kind == 0 ? least : kind == 1 ? most : some(least, most);
-    }
-
-    private static String game() {
-        int length = some(0, 3) == 0 ? some(4, 40) : some(4, 9);
-        int lanes = some(1, 6) == 1 ? some(1, 6) : some(1, 2);
-        StringBuilder text = new StringBuilder("yard long " + length + " lanes " + lanes + " runs " + edged(1, 4) + ";verse ");
-        int parts = some(1, 5);
-        for (int p = 0; p < parts; p++) {
-            text.append(p == 0 ? "" : ",");
-            int syllables = some(1, 4);
-            for (int s = 0; s < syllables; s++) {
-                text.append(" ").append(some(1, some(0, 3) == 0 ? 20 : 4));
-            }
-        }
-        text.append(";one");
-        for (int p = 0; p < parts - 1; p++) {
-            text.append(p == 0 ? " turns " : ",").append(edged(0, some(0, 1) == 0 ? 30 : 100));
-        }
-        text.append(" looks ").append(some(1, 12)).append(" eye ").append(some(1, 6)).append(" sees ").append(edged(0, 40));
-        int gravels = some(0, 5);
-        for (int g = 0; g < gravels; g++) {
-            int from = some(1, length);
-            text.append(";gravel lane " + some(0, lanes - 1) + " from " + from + " to " + some(from, length) + " loud " + some(1, 40));
-        }
-        int creepers = some(1, 5);
-        for (int c = 0; c < creepers; c++) {
-            String way = some(0, 2) == 0 ? "brave" : some(0, 1) == 0 ? "safe " + some(1, 5) : "sly " + some(1, 8);
-            text.append(";creeper c" + (char) ('a' + c) + " lane " + some(0, lanes - 1) + " pace " + some(1, some(0, 2) == 0 ? 20 : 5)
-                + " wobble " + edged(0, 100) + " tall " + some(100, 104) + " expects " + edged(0, some(0, 1) * 90 + 10) + " " + way);
-        }
-        return text.toString();
     }
 
     private static void same(String text, StillYard x, Model m, String when) {
@@ -84,18 +42,18 @@ public final class ModelTest {
     private static void played(String text) {
         StillYard x = Check.yard(text);
         Model m = new Model(text);
-        int seed = edged(0, 65536);
+        int seed = MADE.edged(0, 65536);
         x.start(seed);
         m.begin(seed);
         for (int i = 0; i < 10 && m.toucher < 0; i++) {
-            if (some(0, 1) == 0) {
+            if (MADE.some(0, 1) == 0) {
                 int came = 0;
                 while (came == 0) {
                     came = m.tenth(m.eyes());
                 }
                 CHECK.due("round of " + text, x.round(), came);
             } else {
-                int n = some(1, 9);
+                int n = MADE.some(1, 9);
                 int gone = 0;
                 while (gone < n && m.toucher < 0) {
                     m.tenth(m.eyes());
@@ -111,14 +69,14 @@ public final class ModelTest {
         StillYard x = Check.yard(text);
         Model m = new Model(text);
         int n = m.creepers.size();
-        for (int i = 0; i < some(0, 3); i++) {
-            int c = some(0, n - 1);
-            int place = some(0, m.length - 1);
+        for (int i = 0; i < MADE.some(0, 3); i++) {
+            int c = MADE.some(0, n - 1);
+            int place = MADE.some(0, m.length - 1);
             x.bring(c, place);
             m.creepers.get(c).place = place;
         }
         CHECK.due("watch of " + text, x.watch(), m.watch());
-        int cells = some(1, m.length);
+        int cells = MADE.some(1, m.length);
         CHECK.due("lay of " + text, x.lay(cells), m.lay(cells)[0]);
         CHECK.due("heard of " + text, x.heard(cells), m.lay(cells)[1]);
         for (int p = 0; p < m.parts.size(); p++) {
@@ -126,7 +84,7 @@ public final class ModelTest {
             CHECK.due("both " + p + " of " + text, x.both(p), m.both(p));
         }
         for (int k = 0; k < 6; k++) {
-            stands(text, x, m, some(0, n - 1), edged(0, m.length - 1), edged(0, m.total()));
+            stands(text, x, m, MADE.some(0, n - 1), MADE.edged(0, m.length - 1), MADE.edged(0, m.total()));
         }
         int[] fair = m.fair();
         CHECK.due("fair of " + text, x.fair(), fair[0]);
@@ -162,9 +120,9 @@ public final class ModelTest {
     }
 
     private static void plays(String text, StillYard x, Model m) {
-        int seed = some(0, 1) == 0 ? some(0, 65536) : 65530;
-        int n = some(1, 20);
-        int most = some(0, 3) == 0 ? some(1, 999) : some(1, 120);
+        int seed = MADE.some(0, 1) == 0 ? MADE.some(0, 65536) : 65530;
+        int n = MADE.some(1, 20);
+        int most = MADE.some(0, 3) == 0 ? MADE.some(1, 999) : MADE.some(1, 120);
         x.start(seed);
         x.tenths(1);
         int now = x.size(5);
@@ -189,11 +147,11 @@ public final class ModelTest {
     private static void spans(String text) {
         StillYard x = Check.yard(text);
         Model m = new Model(text);
-        int c = some(0, m.creepers.size() - 1);
-        int n = some(1, 9);
+        int c = MADE.some(0, m.creepers.size() - 1);
+        int n = MADE.some(1, 9);
         int wobbled = 0;
         for (int i = 0; i < n; i++) {
-            boolean wobbles = some(0, 2) == 0;
+            boolean wobbles = MADE.some(0, 2) == 0;
             wobbled += wobbles ? 1 : 0;
             CHECK.due("stop", x.stop(c, wobbles), i + 1);
         }
